@@ -56,7 +56,7 @@ public final class LargeGraphTest {
         compareForests(name, random, house, n, edges);
     }
 
-    /** Every edge in turn doubles the sets whose odd ends are reachable; the even ones remain. */
+    /** Elimination over the ends of edges: sets whose ends cancel out are a basis, its sums all. */
     private static long[] allCycles(int n, int[][] edges) {
         List<Long> basis = new ArrayList<>();
         long[] rowEnds = new long[n];
