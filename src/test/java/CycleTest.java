@@ -1,181 +1,161 @@
 import java.util.NoSuchElementException;
 
-/** Promises 7 to 12: isCycle, through, basis, belongs, cycles, light. */
+/** Promises 7 and 8: isCycle, through. A method for each sentence's edge cases. */
 public final class CycleTest {
     private static final Due due = new Due();
 
     public static void main(String[] args) {
-        kindsOfSets();
+        noCycles();
+        emptyCycle();
+        cyclesThatAreNotSimple();
+        simpleCycles();
+        loopsHaveTwoEnds();
+        isCycleRefuses();
         throughEdges();
-        bases();
-        belonging();
-        belongingWithoutWeight();
-        counts();
-        lightOnes();
-        greatestWeights();
-        wrongArguments();
+        throughWithoutOne();
+        throughOfNoWeight();
+        throughBeyondInt();
+        throughRefuses();
         due.finish();
     }
 
-    /** Two triangles that share vertex 2, a pair beside, and a loop on vertex 0. */
-    private static CycleHouse bowTie() {
-        return Houses.of(7, new int[][] {{0, 1, 1}, {1, 2, 2}, {2, 0, 3}, {2, 3, 4}, {3, 4, 5},
-            {4, 2, 6}, {5, 6, 7}, {6, 5, 8}, {0, 0, 9}});
+    private static void noCycles() {
+        due.sentence("isCycle: 0 a set is no cycle");
+        CycleHouse house = Houses.bowTie();
+        due.same("one edge", house.isCycle(0b1), 0);
+        due.same("path", house.isCycle(0b11), 0);
+        due.same("triangle with an edge more", house.isCycle(0b1111), 0);
+        due.same("triangle and an edge apart", house.isCycle(0b001000111), 0);
+        due.same("loop and one edge", house.isCycle(0b100000001), 0);
+        CycleHouse thick = Houses.of(2, Houses.same(15, 1, 0, 1));
+        due.same("fifteen beside", thick.isCycle(Sets.below(15)), 0);
+        due.same("three beside", thick.isCycle(0b111), 0);
+        CycleHouse greatest = Houses.of(16, Houses.firstOf29(29));
+        due.same("all of the greatest", greatest.isCycle(Sets.below(29)), 0);
+        for (int e = 0; e < 29; e++) {
+            due.same("edge " + e + " of the greatest", greatest.isCycle(1L << e), 0);
+        }
     }
 
-    private static void kindsOfSets() {
-        CycleHouse house = bowTie();
-        due.same("empty", house.isCycle(0), 1);
-        due.same("triangle", house.isCycle(0b111), 2);
+    private static void emptyCycle() {
+        due.sentence("the EMPTY set is one; SIMPLE if it is not empty");
+        due.same("without edges", new CycleHouse().isCycle(0), 1);
+        due.same("of 16 vertices without edges", Houses.of(16).isCycle(0), 1);
+        due.same("of a tree", Houses.of(16, Houses.path(16, 1)).isCycle(0), 1);
+        due.same("of a bow tie", Houses.bowTie().isCycle(0), 1);
+    }
+
+    private static void cyclesThatAreNotSimple() {
+        due.sentence("isCycle: 1 it is one");
+        CycleHouse house = Houses.bowTie();
         due.same("both triangles, a vertex in common", house.isCycle(0b111111), 1);
-        due.same("path", house.isCycle(0b11), 0);
-        due.same("one edge", house.isCycle(0b1), 0);
-        due.same("pair", house.isCycle(0b011000000), 2);
         due.same("pair and triangle apart", house.isCycle(0b011000111), 1);
-        due.same("loop", house.isCycle(0b100000000), 2);
         due.same("loop and triangle", house.isCycle(0b100000111), 1);
-        due.same("loop and one edge", house.isCycle(0b100000001), 0);
         due.same("all", house.isCycle(0b111111111), 1);
-        due.same("empty without edges", new CycleHouse().isCycle(0), 1);
+        CycleHouse thick = Houses.of(2, Houses.same(4, 0, 1, 1));
+        due.same("four beside", thick.isCycle(0b1111), 1);
+        due.same("two loops", Houses.of(1, Houses.loops(0, 2, 0)).isCycle(0b11), 1);
+    }
+
+    private static void simpleCycles() {
+        due.sentence("isCycle: 2 a simple one");
+        CycleHouse house = Houses.bowTie();
+        due.same("triangle", house.isCycle(0b111), 2);
+        due.same("the other triangle", house.isCycle(0b111000), 2);
+        due.same("pair", house.isCycle(0b011000000), 2);
+        due.same("loop", house.isCycle(0b100000000), 2);
+        for (int n = 1; n <= 16; n++) {
+            CycleHouse ring = Houses.of(n, Houses.ring(n, 0));
+            due.same("a ring of " + n, ring.isCycle(Sets.below(n)), 2);
+        }
+        // A chord does not lie within the ring, so that the ring stays simple.
+        CycleHouse chord = Houses.of(4, Houses.both(Houses.ring(4, 9), new int[][] {{0, 2, 0}}));
+        due.same("a ring with a chord", chord.isCycle(0b1111), 2);
+    }
+
+    private static void loopsHaveTwoEnds() {
+        due.sentence("an edge from a vertex to itself has two there");
+        for (int v = 0; v < 16; v++) {
+            CycleHouse house = Houses.of(16, new int[] {v, v, 1}, new int[] {v, (v + 1) % 16, 1});
+            due.same("a loop on " + v, house.isCycle(0b01), 2);
+            due.same("with an edge there", house.isCycle(0b11), 0);
+            due.same("look(3)", house.look(3), 1);
+        }
+    }
+
+    private static void isCycleRefuses() {
+        due.sentence("isCycle: Throws IllegalArgumentException when it has bits from m on");
+        Sets.holdFromMOn(due, "isCycle", CycleHouse::isCycle);
     }
 
     private static void throughEdges() {
-        CycleHouse house = bowTie();
+        due.sentence("through: The least weight of a cycle that has an edge");
+        CycleHouse house = Houses.bowTie();
         long[] want = {6, 6, 6, 15, 15, 15, 15, 15, 9};
         for (int e = 0; e < want.length; e++) {
             due.same("through(" + e + ")", house.through(e), want[e]);
         }
-        house.drop();
-        house.drop();
-        due.same("through of a bridge", house.through(6), -1);
         house.edge(0, 3, 0);
-        due.same("through of a weightless chord", house.through(7), 7);
+        due.same("through a weightless chord", house.through(9), 7);
         due.same("through(4)", house.through(4), 14);
+        CycleHouse pair = Houses.of(2, new int[][] {{0, 1, 3}, {1, 0, 4}, {1, 1, 8}});
+        due.same("one of a pair", pair.through(0), 7);
+        due.same("the other one", pair.through(1), 7);
+        due.same("a loop alone", pair.through(2), 8);
     }
 
-    private static void bases() {
-        CycleHouse house = bowTie();
-        long[] want = {6, 9, 15, 15};
-        for (int i = 0; i < want.length; i++) {
-            due.same("basis(" + i + ")", house.basis(i), want[i]);
+    private static void throughWithoutOne() {
+        due.sentence("through: -1 without one");
+        CycleHouse path = Houses.of(16, Houses.path(16, 0));
+        for (int e = 0; e < 15; e++) {
+            due.same("edge " + e + " of a row", path.through(e), -1);
         }
-        due.refuses("basis(4)", NoSuchElementException.class, () -> house.basis(4));
-        CycleHouse complete = Houses.of(6, Houses.complete(6));
-        due.same("complete: basis(0)", complete.basis(0), 3);
-        due.same("complete: basis(9)", complete.basis(9), 3);
-        due.refuses("complete: basis(10)", NoSuchElementException.class, () -> complete.basis(10));
-        CycleHouse petersen = Houses.of(10, Houses.petersen());
-        due.same("Petersen: basis(5)", petersen.basis(5), 5);
-        CycleHouse weightless = Houses.of(1, new int[][] {{0, 0, 0}, {0, 0, 3}, {0, 0, 0}});
-        due.same("loops: basis(0)", weightless.basis(0), 0);
-        due.same("loops: basis(1)", weightless.basis(1), 0);
-        due.same("loops: basis(2)", weightless.basis(2), 3);
+        CycleHouse bridge = Houses.of(6, new int[][] {{0, 1, 1}, {1, 2, 1}, {2, 0, 1}, {2, 3, 0},
+            {3, 4, 1}, {4, 5, 1}, {5, 3, 1}});
+        due.same("a bridge between rings", bridge.through(3), -1);
+        due.same("an edge of a ring", bridge.through(2), 3);
+        CycleHouse hook = Houses.of(2, new int[][] {{0, 1, 5}, {1, 1, 2}});
+        due.same("an edge to a loop", hook.through(0), -1);
     }
 
-    private static void belonging() {
-        CycleHouse house = bowTie();
-        due.yes("triangle", house.belongs(0b111));
-        due.yes("loop", house.belongs(0b100000000));
-        due.no("loop and triangle", house.belongs(0b100000111));
-        due.no("empty", house.belongs(0));
-        due.no("no cycle", house.belongs(0b1));
-        due.no("both triangles", house.belongs(0b111111));
-        due.no("nothing without edges", new CycleHouse().belongs(0));
-        // A square with both chords: of equal weight all triangles belong, no square does.
-        CycleHouse square = Houses.of(4, Houses.complete(4));
-        int triangles = 0;
-        int others = 0;
-        for (long set = 0; set < 64; set++) {
-            if (square.belongs(set) && Long.bitCount(set) == 3) {
-                triangles++;
-            } else if (square.belongs(set)) {
-                others++;
+    private static void throughOfNoWeight() {
+        due.sentence("through: -1 without one (and 0, not -1, with one that weighs nothing)");
+        due.same("a loop", Houses.of(1, Houses.loops(0, 1, 0)).through(0), 0);
+        CycleHouse ring = Houses.of(16, Houses.ring(16, 0));
+        for (int e = 0; e < 16; e++) {
+            due.same("edge " + e + " of a ring", ring.through(e), 0);
+        }
+    }
+
+    private static void throughBeyondInt() {
+        due.sentence("its WEIGHT is that of its edges together (of a cycle, beyond int)");
+        CycleHouse three = Houses.of(3, Houses.ring(3, Houses.HEAVIEST));
+        due.same("a ring of 3", three.through(0), 3000000000L);
+        CycleHouse ring = Houses.of(16, Houses.ring(16, Houses.HEAVIEST));
+        for (int e = 0; e < 16; e++) {
+            due.same("edge " + e + " of a ring of 16", ring.through(e), 16000000000L);
+        }
+    }
+
+    private static void throughRefuses() {
+        due.sentence("through: Throws NoSuchElementException when there is no such edge");
+        for (int m = 0; m <= 29; m++) {
+            CycleHouse house = Houses.of(16, Houses.firstOf29(m));
+            for (int e = 0; e < m; e++) {
+                int there = e;
+                due.accepts("through(" + e + ") of " + m, () -> house.through(there));
+            }
+            for (int e : new int[] {m, m + 1, 29, 40, 64, 64 + m - 1, -1, -64, Integer.MIN_VALUE,
+                Integer.MAX_VALUE}) {
+                due.refuses("through(" + e + ") of " + m, NoSuchElementException.class,
+                    () -> house.through(e));
             }
         }
-        due.same("triangles that belong", triangles, 4);
-        due.same("others that belong", others, 0);
-    }
-
-    /** With rings of weight 0 a cycle that is not simple can be in a lightest basis. */
-    private static void belongingWithoutWeight() {
-        CycleHouse house = Houses.of(2, new int[][] {{0, 0, 0}, {1, 1, 5}, {1, 1, 0}});
-        due.yes("weightless", house.belongs(0b001));
-        due.yes("both weightless", house.belongs(0b101));
-        due.yes("weight 5", house.belongs(0b010));
-        due.yes("weight 5 and a weightless", house.belongs(0b011));
-        due.yes("all three", house.belongs(0b111));
-        due.no("empty", house.belongs(0));
-        house.edge(0, 0, 5);
-        due.no("twice 5", house.belongs(0b1010));
-    }
-
-    private static void counts() {
-        due.same("bow tie", bowTie().cycles(), 4);
-        due.same("complete graph of 6", Houses.of(6, Houses.complete(6)).cycles(), 197);
-        due.same("Petersen's graph", Houses.of(10, Houses.petersen()).cycles(), 57);
-        // Of a wheel with n spokes: n * n - n + 1.
-        due.same("wheel of 14", Houses.of(15, Houses.wheel(14)).cycles(), 183);
-        due.same("no edge", new CycleHouse().cycles(), 0);
-        CycleHouse beside = new CycleHouse();
-        beside.reset(2);
-        for (int e = 0; e < 15; e++) {
-            beside.edge(e % 2, 1 - e % 2, e);
-        }
-        due.same("fifteen beside", beside.cycles(), 105);
-        CycleHouse loops = new CycleHouse();
-        for (int e = 0; e < 14; e++) {
-            loops.edge(0, 0, e);
-        }
-        due.same("fourteen loops", loops.cycles(), 14);
-        due.same("a triangle of pairs", Houses.of(3, new int[][] {{0, 1, 1}, {1, 2, 1}, {2, 0, 1},
-            {0, 1, 1}, {1, 2, 1}, {2, 0, 1}}).cycles(), 11);
-    }
-
-    private static void lightOnes() {
-        CycleHouse house = bowTie();
-        long[][] rows = {{Long.MIN_VALUE, 0}, {-1, 0}, {0, 1}, {5, 1}, {6, 2}, {8, 2}, {9, 3},
-            {14, 3}, {15, 6}, {44, 15}, {45, 16}, {Long.MAX_VALUE, 16}};
-        for (long[] row : rows) {
-            due.same("light(" + row[0] + ")", house.light(row[0]), row[1]);
-        }
-        CycleHouse loops = new CycleHouse();
-        for (int e = 0; e < 14; e++) {
-            loops.edge(0, 0, 0);
-        }
-        due.same("weightless: light(0)", loops.light(0), 1 << 14);
-        due.same("weightless: light(-1)", loops.light(-1), 0);
-        due.same("no edge: light(0)", new CycleHouse().light(0), 1);
-    }
-
-    private static void greatestWeights() {
-        int[][] ring = new int[29][];
-        for (int i = 0; i < 29; i++) {
-            ring[i] = i < 16 ? new int[] {i, (i + 1) % 16, 1000000000}
-                : new int[] {i - 16, i - 16, 1000000000};
-        }
-        CycleHouse house = Houses.of(16, ring);
-        due.same("through(0)", house.through(0), 16000000000L);
-        due.same("basis(12)", house.basis(12), 1000000000L);
-        due.same("basis(13)", house.basis(13), 16000000000L);
-        due.same("all but the heaviest", house.light(28999999999L), (1 << 14) - 1);
-        due.same("all", house.light(29000000000L), 1 << 14);
-        due.yes("the ring belongs", house.belongs((1L << 16) - 1));
-        due.no("the ring with a loop does not", house.belongs((1L << 17) - 1));
-    }
-
-    private static void wrongArguments() {
-        CycleHouse house = bowTie();
-        for (long set : new long[] {1L << 9, 0b1000000111, 1L << 40, Long.MIN_VALUE, -1}) {
-            due.refuses("isCycle(" + set + ")", IllegalArgumentException.class,
-                () -> house.isCycle(set));
-            due.refuses("belongs(" + set + ")", IllegalArgumentException.class,
-                () -> house.belongs(set));
-        }
-        for (int e : new int[] {-1, 9, 40, Integer.MIN_VALUE, Integer.MAX_VALUE}) {
-            due.refuses("through(" + e + ")", NoSuchElementException.class, () -> house.through(e));
-            due.refuses("basis(" + e + ")", NoSuchElementException.class, () -> house.basis(e));
-        }
-        CycleHouse path = Houses.of(2, new int[][] {{0, 1, 1}});
-        due.refuses("basis(0) of no cycle", NoSuchElementException.class, () -> path.basis(0));
+        CycleHouse house = Houses.bowTie();
+        house.drop();
+        due.refuses("a dropped one", NoSuchElementException.class, () -> house.through(8));
+        due.same("the last one left", house.through(7), 15);
+        house.reset(7);
+        due.refuses("one before reset", NoSuchElementException.class, () -> house.through(0));
     }
 }

@@ -29,6 +29,7 @@ public final class FaceTest {
     };
 
     public static void main(String[] args) {
+        due.sentence("The public face");
         Class<?> house = CycleHouse.class;
         due.yes("public and final", house.getModifiers() == (Modifier.PUBLIC | Modifier.FINAL));
         constructors(house);

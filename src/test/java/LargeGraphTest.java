@@ -42,7 +42,8 @@ public final class LargeGraphTest {
         return edges.toArray(new int[0][]);
     }
 
-    private static void compare(String name, Random random, FreshHouse house, int n, int[][] edges) {
+    private static void compare(String name, Random random, FreshHouse house, int n,
+            int[][] edges) {
         long[] cycles = allCycles(n, edges);
         long[] weights = new long[cycles.length];
         for (int k = 0; k < cycles.length; k++) {
@@ -135,10 +136,12 @@ public final class LargeGraphTest {
             boolean is = isSimple(edges, cycle);
             simple += is ? 1 : 0;
             if (is || simple % 8 == 0) {
-                due.same("isCycle(" + cycle + ") of " + name, house.get().isCycle(cycle), is ? 2 : 1);
+                due.same("isCycle(" + cycle + ") of " + name, house.get().isCycle(cycle),
+                    is ? 2 : 1);
             }
             if (is && edges[0][0] != edges[0][1]) {
-                due.same("isCycle(" + (cycle ^ 1) + ") of " + name, house.get().isCycle(cycle ^ 1), 0);
+                long open = cycle ^ 1;
+                due.same("isCycle(" + open + ") of " + name, house.get().isCycle(open), 0);
             }
         }
         due.same("cycles() of " + name, house.get().cycles(), simple);

@@ -10,6 +10,7 @@ public final class MemoryTest {
     private static final long MOST_BYTES_OF_ALL_CALLS = 4000;
 
     public static void main(String[] args) {
+        due.sentence("All memory is the class's own, made once");
         CycleHouse warm = Houses.of(15, Houses.wheel(14));
         useMuch(warm, 1);
         long before = THREAD.getCurrentThreadAllocatedBytes();
