@@ -13,6 +13,7 @@ public final class CountTest {
         lightNotAbove();
         lightOfAll();
         lightBeyondInt();
+        lightAfterChanges();
         due.finish();
     }
 
@@ -122,5 +123,17 @@ public final class CountTest {
         due.same("the ring", house.light(16000000000L), (1 << 13) + 1);
         due.same("all but the heaviest", house.light(28999999999L), (1 << 14) - 1);
         due.same("all", house.light(29000000000L), 1 << 14);
+    }
+
+    private static void lightAfterChanges() {
+        due.sentence("light: (of the graph as it is now)");
+        due.same("a triangle after drop", Houses.openedTriangle().light(Long.MAX_VALUE), 1);
+        CycleHouse house = Houses.bowTie();
+        house.drop();
+        due.same("a bow tie after drop", house.light(45), 8);
+        house.edge(0, 3, 1);
+        due.same("after edge", house.light(Long.MAX_VALUE), 16);
+        house.reset(7);
+        due.same("after reset", house.light(Long.MAX_VALUE), 1);
     }
 }

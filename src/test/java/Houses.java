@@ -97,6 +97,14 @@ final class Houses {
             {5, 6, 7}, {6, 5, 8}, {0, 0, 9}});
     }
 
+    /** Two edges in a row, after a call looked at a third one, which closed them and is gone. */
+    static CycleHouse openedTriangle() {
+        CycleHouse house = of(3, new int[][] {{0, 1, 1}, {0, 2, 1}, {1, 2, 1}});
+        house.forests(0b100);
+        house.drop();
+        return house;
+    }
+
     /** All that can be seen of the state in some 170 calls, as one text. */
     static String seen(CycleHouse house) {
         StringBuilder text = new StringBuilder();

@@ -94,6 +94,7 @@ public final class LookTest {
             due.same("a row of " + n, Houses.of(n, Houses.path(n, 0)).look(4), n - 1);
             due.same("a ring of " + n, Houses.of(n, Houses.ring(n, 0)).look(4), 0);
         }
+        due.same("a triangle after drop", Houses.openedTriangle().look(4), 2);
         due.same("loops", Houses.of(1, Houses.loops(0, 14, 1)).look(4), 0);
         due.same("a pair", Houses.of(2, Houses.same(2, 0, 1, 0)).look(4), 0);
         due.same("an edge to a loop", Houses.of(2, new int[][] {{0, 1, 1}, {1, 1, 1}}).look(4), 1);
@@ -102,6 +103,9 @@ public final class LookTest {
             Houses.of(16, Houses.both(row, Houses.loops(3, 14, 1))).look(4), 15);
         due.same("a row that half closes",
             Houses.of(16, Houses.both(row, new int[][] {{3, 10, 1}})).look(4), 8);
+        // Pairs first, then pairs of pairs: groups of several vertices come together.
+        due.same("a ring out of pieces", Houses.of(8, new int[][] {{0, 1, 1}, {2, 3, 1}, {4, 5, 1},
+            {6, 7, 1}, {2, 1, 1}, {5, 6, 1}, {3, 4, 1}, {7, 0, 1}}).look(4), 0);
     }
 
     private static void oddCycles() {
@@ -111,6 +115,7 @@ public final class LookTest {
         for (int n = 1; n <= 16; n++) {
             due.same("a ring of " + n, Houses.of(n, Houses.ring(n, 1)).look(5), n % 2 == 0 ? 1 : 0);
         }
+        due.same("a triangle after drop", Houses.openedTriangle().look(5), 1);
         due.same("fifteen beside", Houses.of(2, Houses.same(15, 0, 1, 1)).look(5), 1);
         CycleHouse far = Houses.of(16, Houses.both(Houses.ring(14, 1), new int[][] {{15, 15, 0}}));
         due.same("a loop apart", far.look(5), 0);
@@ -168,12 +173,13 @@ public final class LookTest {
         due.same("a bow tie", Houses.bowTie().look(8), 1);
         due.same("a row with loops at its ends", Houses.of(3, new int[][] {{0, 1, 1}, {1, 2, 1},
             {0, 0, 1}, {2, 2, 1}}).look(8), 1);
-        // The star's middle leaves as many alone as there are others.
-        int[][] star = new int[15][];
-        for (int v = 0; v < 15; v++) {
-            star[v] = new int[] {15, v, 1};
+        for (int middle = 0; middle < 16; middle++) {
+            int[][] star = new int[15][];
+            for (int i = 1; i < 16; i++) {
+                star[i - 1] = new int[] {middle, (middle + i) % 16, 1};
+            }
+            due.same("a star around " + middle, Houses.of(16, star).look(8), 1);
         }
-        due.same("a star", Houses.of(16, star).look(8), 1);
     }
 
     private static void refuses() {
